@@ -419,6 +419,10 @@ public final class KeptTables {
     return i >= 0 && i < SIDE;
   }
 
+  private static boolean hasBit(int bits, int i) {
+    return (bits >> i & 1) != 0;
+  }
+
   /** The table t, or null where none is there. */
   private Grid gridAt(int t) {
     if (!isSlot(t)) {
@@ -498,7 +502,7 @@ public final class KeptTables {
     }
 
     boolean keeps(int r, int c) {
-      return isLine(c) && (columnsOf(r) >> c & 1) != 0;
+      return isLine(r) && isLine(c) && hasBit(keptColumns[r], c);
     }
 
     long value(int r, int c) {
@@ -547,19 +551,20 @@ public final class KeptTables {
       for (int r = 0; r < SIDE; r++) {
         int inRow = Integer.bitCount(keptColumns[r]);
         if (left < inRow) {
-          return r * SIDE + columnNumber(r, left);
+          return r * SIDE + bitNumber(keptColumns[r], left);
         }
         left -= inRow;
       }
       return 0;
     }
 
-    private int columnNumber(int r, int k) {
+    /** Where the k-th bit stands that is set, 0 if there are not so many. */
+    private static int bitNumber(int bits, int k) {
       int left = k;
-      for (int c = 0; c < SIDE; c++) {
-        if (keeps(r, c)) {
+      for (int i = 0; i < SIDE; i++) {
+        if (hasBit(bits, i)) {
           if (left == 0) {
-            return c;
+            return i;
           }
           left--;
         }
@@ -947,7 +952,7 @@ public final class KeptTables {
     }
   }
 
-  /** A table read as a graph: nodes are bits of a number, and a row of such bits leads on from each. */
+  /** A table read as a graph. A set of nodes is a number with a bit for each of them. */
   private static final class Graph {
     private int size = 0;
     private final int[] arcs = new int[SIDE];
@@ -970,15 +975,11 @@ public final class KeptTables {
     private int sourcesOf(int c) {
       int sources = 0;
       for (int r = 0; r < SIDE; r++) {
-        if (has(arcs[r], c)) {
+        if (hasBit(arcs[r], c)) {
           sources |= 1 << r;
         }
       }
       return sources;
-    }
-
-    private static boolean has(int nodes, int node) {
-      return (nodes >> node & 1) != 0;
     }
 
     private int allNodes() {
@@ -1021,7 +1022,7 @@ public final class KeptTables {
       int reached = 1 << a;
       // The shortest way meets no node twice: it has fewer arcs than there are nodes.
       for (int length = 0; length < SIDE; length++) {
-        if (has(reached, b)) {
+        if (hasBit(reached, b)) {
           return length;
         }
         reached |= targetsOf(reached);
@@ -1032,21 +1033,21 @@ public final class KeptTables {
     private int targetsOf(int nodes) {
       int targets = 0;
       for (int r = 0; r < SIDE; r++) {
-        if (has(nodes, r)) {
+        if (hasBit(nodes, r)) {
           targets |= arcs[r];
         }
       }
       return targets;
     }
 
-    /** Finds what each node reaches, itself included, by letting one more node between at a time. */
+    /** Finds what each node reaches, itself included, letting one more node between at a time. */
     void closeReach() {
       for (int r = 0; r < SIDE; r++) {
         reach[r] = arcs[r] | 1 << r;
       }
       for (int between = 0; between < SIDE; between++) {
         for (int r = 0; r < SIDE; r++) {
-          if (has(reach[r], between)) {
+          if (hasBit(reach[r], between)) {
             reach[r] |= reach[between];
           }
         }
@@ -1058,7 +1059,7 @@ public final class KeptTables {
         return 0;
       }
       for (int least = 0; least < a; least++) {
-        if (has(reach[a], least) && has(reach[least], a)) {
+        if (hasBit(reach[a], least) && hasBit(reach[least], a)) {
           return least;
         }
       }
@@ -1094,7 +1095,7 @@ public final class KeptTables {
     private int leastWithoutSource(int left) {
       for (int node = 0; node < SIDE; node++) {
         int others = left & ~(1 << node);
-        if (has(left, node) && (sourcesOf(node) & others) == 0) {
+        if (hasBit(left, node) && (sourcesOf(node) & others) == 0) {
           return node;
         }
       }
@@ -1114,7 +1115,7 @@ public final class KeptTables {
       }
     }
 
-    /** Appends all these nodes, those with the fewest neighbours first: what is left without them. */
+    /** Appends these nodes, those with the fewest neighbours first: what is left without them. */
     private int moveAll(int nodes, int left, Numbers order) {
       int stillLeft = left;
       for (int i = 0; i < SIDE && (nodes & stillLeft) != 0; i++) {
@@ -1129,7 +1130,7 @@ public final class KeptTables {
       int bestCount = SIDE;
       for (int node = 0; node < SIDE; node++) {
         int neighbourCount = Integer.bitCount(neighbours[node]);
-        if (has(nodes, node) && neighbourCount < bestCount) {
+        if (hasBit(nodes, node) && neighbourCount < bestCount) {
           best = node;
           bestCount = neighbourCount;
         }
@@ -1150,7 +1151,7 @@ public final class KeptTables {
       int widest = 0;
       for (int i = 0; i < SIDE && i < order.length; i++) {
         for (int j = 0; j < i; j++) {
-          if (has(neighboursOf(order.item(i)), order.item(j))) {
+          if (hasBit(neighboursOf(order.item(i)), order.item(j))) {
             widest = Math.max(widest, i - j);
           }
         }

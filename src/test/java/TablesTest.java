@@ -56,8 +56,9 @@ public final class TablesTest {
     due("13 add(0, 0, 0)", x.add(0, 0, 0, 1L, 10L), 3);
     CHECKS.dueTable("13 into itself", x, 0, "2x3: 0,0=33 0,1=22 1,2=44");
     due("13 add(0, 1, 1)", x.add(0, 1, 1, -1L, Long.MAX_VALUE), 4);
-    CHECKS.dueTable("13 into b, wrapping", x, 1,
-        "2x3: 0,0=" + (Long.MAX_VALUE * -6L - 33L) + " 0,1=-22 1,0=" + Long.MAX_VALUE * 5L + " 1,2=-44");
+    due("13 into b, wrapping", x.at(1, 0, 0), Long.MAX_VALUE * -6L - 33L);
+    due("13 into b, kept in a alone", x.at(1, 1, 2), -44);
+    due("13 into b, kept in b alone", x.at(1, 1, 0), Long.MAX_VALUE * 5L);
     x.table(3, 3, 2);
     x.table(4, 2, 2);
     due("13 other sizes", x.add(0, 3, 2, 1L, 1L), -3);
