@@ -434,14 +434,14 @@ public final class KeptTables {
 
   /** Puts the drafted table at to, if it keeps no more than a table may: how many it keeps. */
   private int putDraft(int to) {
-    if (!isSlot(to)) {
+    Grid old = isSlot(to) ? grids[to] : null;
+    if (old == null) {
       return NO_TABLE;
     }
     int keptCount = draft.keptCount();
     if (keptCount > MOST_KEPT) {
       return NO_ROOM;
     }
-    Grid old = grids[to];
     grids[to] = draft;
     draft = old;
     return keptCount;

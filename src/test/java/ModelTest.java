@@ -160,7 +160,7 @@ public final class ModelTest {
   }
 
   private void wholeTable(int t) {
-    for (int k = 0; k < model.count(t, 2); k++) {
+    for (int k = 0; k < model.count(t, 2) && callsLeft > 1; k++) {
       int place = model.place(t, k);
       due("place", x.place(t, k), place);
       due("at", x.at(t, place / 16, place % 16), model.at(t, place / 16, place % 16));
@@ -176,7 +176,7 @@ public final class ModelTest {
       case 20 -> due("cheapest", x.cheapest(t, b), model.cheapest(t, b));
       default -> {
         int i = wildOr(random.nextInt(Math.max(1, model.cost(t, form, b)) + 1));
-        for (int k = 0; k < 8; k++) {
+        for (int k = 0; k < 8 && callsLeft > 0; k++) {
           due("cell", x.cell(t, form, b, i + k), model.cell(t, form, b, i + k));
         }
       }
@@ -198,7 +198,7 @@ public final class ModelTest {
       default -> due("width", x.width(t), model.width(t));
     }
     if ((kind == 26 || kind == 27) && random.nextInt(3) == 0) {
-      for (int i = 0; i < 17; i++) {
+      for (int i = 0; i < 17 && callsLeft > 0; i++) {
         due("listed", x.listed(i), model.listed(i));
       }
     }
