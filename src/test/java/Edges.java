@@ -18,8 +18,9 @@ final class Edges {
     long ask(KeptTables x);
   }
 
-  /** Stands for the section "Terms" where the number of a promise is asked for. */
+  /** These stand for sections of the document where the number of a promise is asked for. */
   static final int TERMS = 0;
+  static final int WHAT_IT_IS = -1;
 
   static final int LOWEST = Integer.MIN_VALUE;
   static final int HIGHEST = Integer.MAX_VALUE;
@@ -38,10 +39,21 @@ final class Edges {
 
   /** All checks from here on are of this sentence, which the document has in these words. */
   void sentence(int promise, String words) {
-    String where = promise == TERMS ? "Terms" : "Promise " + promise;
+    String where = section(promise);
     sentence = where + ", \"" + words + "\": ";
     named.add(promise);
     checks.due(sentence + "told by the document", isTold(where, words) ? 1 : 0, 1);
+  }
+
+  private static String section(int promise) {
+    switch (promise) {
+      case TERMS:
+        return "Terms";
+      case WHAT_IT_IS:
+        return "What it is";
+      default:
+        return "Promise " + promise;
+    }
   }
 
   private boolean isTold(String where, String words) {

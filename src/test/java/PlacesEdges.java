@@ -13,6 +13,7 @@ final class PlacesEdges {
   void run() {
     noTables();
     objectsApart();
+    calls512();
     tableWithNothing();
     tableAfterALargerOne();
     tableNumberOutside();
@@ -86,6 +87,21 @@ final class PlacesEdges {
     edges.due("triples of an older object", y.count(0, 4), 0);
     edges.due("list of an older object", y.count(0, 5), 0);
     edges.dueTable("the first object", x, 0, "2x3: 0,0=3 0,2=0 1,1=-4");
+  }
+
+  private void calls512() {
+    edges.sentence(Edges.WHAT_IT_IS,
+        "An object is used for at most 512 calls after it has been made");
+    KeptTables x = new KeptTables();
+    x.table(0, 16, 16);
+    for (int i = 0; i < 255; i++) {
+      edges.due("triple " + i, x.triple(i % 16, i % 16, 1L), 1);
+      edges.due("join " + i, x.join(0), Math.min(16, i + 1));
+    }
+    edges.due("the 512th call", x.sum(0, true, 15), 15);
+    // What these answer is free, but none may throw.
+    Stories.crowd(x);
+    x.times(3, 3, 3);
   }
 
   // ---- promise 2
