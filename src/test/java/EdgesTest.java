@@ -10,6 +10,7 @@ public final class EdgesTest {
     new TablesEdges(edges).run();
     new FormsEdges(edges).run();
     new GraphsEdges(edges).run();
+    new ReadingsEdges(edges).run();
     edges.end();
   }
 }

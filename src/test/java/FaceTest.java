@@ -7,6 +7,7 @@ import java.nio.file.Files;
 import java.nio.file.Path;
 import java.util.Arrays;
 import java.util.TreeSet;
+import java.util.regex.Matcher;
 import java.util.regex.Pattern;
 
 /** The public face, and the rules of the language that can be seen from outside or in the text. */
@@ -33,8 +34,12 @@ public final class FaceTest {
     "::"
   };
 
+  private static final Path DOCUMENT = Path.of("../shared/DOC.md");
+  private static final Pattern TOLD = Pattern.compile("    public (int|long) (\\w+)\\((.*)\\);");
+
   public static void main(String[] args) throws IOException {
     face();
+    faceAsTold();
     members();
     namesOfOwnMethods();
     text();
@@ -63,6 +68,23 @@ public final class FaceTest {
     Constructor<?>[] constructors = KeptTables.class.getDeclaredConstructors();
     CHECKS.due("constructors", constructors.length, 1);
     CHECKS.due("the constructor", constructors[0].toString(), "public KeptTables()");
+  }
+
+  /** The list above is the document's own. */
+  private static void faceAsTold() throws IOException {
+    if (!Files.exists(DOCUMENT)) {
+      return;
+    }
+    TreeSet<String> told = new TreeSet<>();
+    for (String line : Files.readAllLines(DOCUMENT)) {
+      Matcher method = TOLD.matcher(line);
+      if (method.matches()) {
+        String types = method.group(3).replaceAll(" \\w+(, |$)", "$1").replace(", ", ",");
+        told.add(method.group(1) + " " + method.group(2) + "(" + types + ")");
+      }
+    }
+    String listed = new TreeSet<>(Arrays.asList(FACE)).toString();
+    CHECKS.due("the document's face", listed, told.toString());
   }
 
   private static void members() {

@@ -451,7 +451,7 @@ final class GraphsEdges {
         0, 1, 1, 0, 2, 1, 0, 3, 1, 1, 4, 1, 1, 5, 1, 2, 6, 1, 7, 3, 1, 4, 5, 1);
     edges.due("narrow", x.narrow(0), 3);
     edges.dueList("from 6 on", x, 6, 2, 0, 3, 1, 7, 4, 5);
-    // Neighbours count wherever they stand, also those that have a place.
+    // 1 and its neighbours 0 and 2, each joined with the other one too: of like ones the least.
     Checks.make(x, 1, 5, 5, 0, 1, 1, 1, 2, 1, 1, 3, 1, 2, 0, 1, 3, 4, 1);
     edges.due("narrow", x.narrow(1), 2);
     edges.dueList("from 4 on", x, 4, 3, 1, 0, 2);
